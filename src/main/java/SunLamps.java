@@ -206,7 +206,7 @@ public final class SunLamps {
         int d = terms.daysFor(today, coins);
         if (!isWithin(d, 1, Codes.MOST_CODE_DAYS)) return STATE;
         if (of.codes.isSoldOut()) return FULL;
-        return of.codes.sell(of.number, d);
+        return of.codes.addSold(of.number, d);
     }
 
     public int take(int lamp, int x) {
@@ -278,7 +278,7 @@ public final class SunLamps {
         for (int number = 0; number < homeCount; number++) {
             if ((homes >> number & 1) != 0) agent.mayVisit(homeAt(number));
         }
-        agent.go(0, 0, 0, 0, n, 0);
+        agent.lookFor(n);
         if (i == -1) return agent.bestCoins;
         if (i == -2) return agent.bestVisits;
         return i < agent.bestVisits ? valueAt(agent.bestRow, i) : NONE;
@@ -618,7 +618,7 @@ public final class SunLamps {
         }
 
         /** The code of some DAYS that are sold, with the next COUNT. */
-        int sell(int lamp, int d) {
+        int addSold(int lamp, int d) {
             if (isSoldOut()) return FULL;
             int count = soldCodes;
             soldDays[count] = (byte) d;
@@ -1024,23 +1024,29 @@ public final class SunLamps {
             return ruling;
         }
 
-        private int firstOf(int ruling, int without) {
-            Text text = ruling < 0 ? null : textAt(ruling / PER_TEXT);
-            return text == null ? without : text.first(ruling % PER_TEXT);
+        private Text textOf(int ruling) {
+            return ruling < 0 ? null : textAt(ruling / PER_TEXT);
         }
 
         int daysFor(int day, int coins) {
             int ruling = rulingOf(SUM, day, coins);
-            Text text = ruling < 0 ? null : textAt(ruling / PER_TEXT);
+            Text text = textOf(ruling);
             return text == null ? coins : text.second(ruling % PER_TEXT);
         }
 
         int graceOf(int day) {
-            return firstOf(rulingOf(GRACE, day, 0), 0);
+            return numberOf(GRACE, day);
         }
 
+        /** 1: the COUNTER runs while a LAMP is BROKEN; 0: it does not. */
         int runOf(int day) {
-            return firstOf(rulingOf(RUN, day, 0), 0);
+            return numberOf(RUN, day);
+        }
+
+        private int numberOf(int word, int day) {
+            int ruling = rulingOf(word, day, 0);
+            Text text = textOf(ruling);
+            return text == null ? 0 : text.first(ruling % PER_TEXT);
         }
 
         boolean holds(int word, Lamp lamp, int day) {
@@ -1048,7 +1054,7 @@ public final class SunLamps {
         }
 
         private boolean rulingHolds(int ruling, Lamp lamp, Meter meter, int day) {
-            Text text = ruling < 0 ? null : textAt(ruling / PER_TEXT);
+            Text text = textOf(ruling);
             return text != null && text.holds(ruling % PER_TEXT, lamp, meter, day / MONTH_DAYS);
         }
 
@@ -1195,8 +1201,12 @@ public final class SunLamps {
             toldCount++;
         }
 
+        void lookFor(int minutes) {
+            goOn(0, 0, 0, 0, minutes, 0);
+        }
+
         /** Goes on from a place in all ways; of rows that are alike good, the first found stays. */
-        void go(int visited, int visits, int x, int y, int minutes, int coins) {
+        private void goOn(int visited, int visits, int x, int y, int minutes, int coins) {
             if (coins > bestCoins || coins == bestCoins && visits < bestVisits) keepRow(visits, coins);
             if (visits < 0 || visits >= row.length) return;
             for (int i = 0; i < toldCount && i < told.length; i++) {
@@ -1205,7 +1215,7 @@ public final class SunLamps {
                 int way = home.minutesFrom(x, y);
                 if (way > minutes) continue;
                 row[visits] = home.number;
-                go(visited | 1 << i, visits + 1, home.x, home.y, minutes - way, coins + home.coinsIn(month));
+                goOn(visited | 1 << i, visits + 1, home.x, home.y, minutes - way, coins + home.coinsIn(month));
             }
         }
 

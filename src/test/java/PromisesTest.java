@@ -377,6 +377,9 @@ public final class PromisesTest {
         due("a fault", x.text(0), -16);
         due("empty with a fault", x.count(4), 0);
         due("an empty text", x.text(0), -10);
+        feedAll(x, "grace 5;off h=0;x");
+        due("a fault behind clauses", x.text(0), -10 - 16);
+        due("nothing of it is in force", x.force(1, 0, 0, 0), 0);
         for (int i = 1; i < 10; i++) due("text " + i, textFrom(x, 0, "grace " + i), i);
         due("texts", x.count(3), 10);
         feedAll(x, "grace x");
@@ -400,7 +403,7 @@ public final class PromisesTest {
         Object[][] wrong = {
             {"", 0}, {" ", 0}, {"x", 0}, {"s", 1}, {"sun", 2}, {"sum", 3}, {"sum5", 3}, {"sum ", 4}, {"sum  5 5", 4},
             {"sum 5", 5}, {"sum 5;", 5}, {"sum 5 ", 6}, {"sum 5 x", 6}, {"sum 5 6 ", 7}, {"sum 5 1234", 9},
-            {"sum 1234 1", 7}, {"sum -1 1", 4}, {"sum 5 6;", 8}, {"sum 5 6,", 7}, {"grace", 5}, {"grade", 3},
+            {"sum 1234 1", 7}, {"sum -1 1", 4}, {"sum 5 6;", 8}, {"sum 5 6,", 7}, {"grace", 5}, {"grace ", 6}, {"grace x", 6}, {"grade", 3},
             {"grace 1000", 9}, {"grace 1 2", 7}, {"ran", 1}, {"run", 3}, {"run ", 4}, {"run yes", 5}, {"run Y", 4},
             {"fetch", 5}, {"fetch ", 6}, {"fetch o", 7}, {"fetch o<", 8}, {"fetch o<<", 8}, {"fetch o<=1", 8},
             {"fetch o!1", 7}, {"fetch o<1234", 11}, {"fetch o<1&", 10}, {"fetch o<1|", 10}, {"fetch o<1||l=1", 10},
@@ -455,6 +458,8 @@ public final class PromisesTest {
         due("an older text's sum", x.force(0, 599, 0, 9), 0);
         due("grace by day 4", x.force(1, 4, 0, 0), 4);
         due("grace by day 5", x.force(1, 5, 0, 0), 3);
+        textFrom(x, 7, "run n");
+        due("run n by day 7", x.force(2, 7, 0, 0), 0);
         due("run by day 2", x.force(2, 2, 0, 0), 0);
         due("run by day 5", x.force(2, 5, 99, -7), 1);
         due("word -1", x.force(-1, 0, 0, 5), -1);
@@ -579,6 +584,7 @@ public final class PromisesTest {
         due("the last of the window", takeDays(x, 0, 5, 7), 5);
         due("good once", takeDays(x, 0, 5, 7), 0);
         due("another of that count", takeDays(x, 0, 6, 7), 0);
+        greatestCode();
         due("low", x.of(0, 8), 0);
         due("above the modulus", x.take(0, x.code(0, 5, 0) + 100000), 0);
         due("below 0", x.take(0, x.code(0, 5, 0) - 100000), 0);
@@ -605,6 +611,19 @@ public final class PromisesTest {
         due("it owes below 0", y.of(0, 5), 8 - 63);
         due("an owned one does not take", takeDays(y, 0, 3, 2), 0);
         leastCountFirst();
+    }
+
+    /** No code of any lamp is nearer to the modulus than 99998: lamp 10's for 41 days with count 21. */
+    private static void greatestCode() {
+        SunLamps x = new SunLamps();
+        x.home(0, 0);
+        for (int i = 0; i <= 10; i++) x.lamp(0, 999, 0);
+        x.lend(10, 0);
+        for (int count = 0; count < 14; count++) takeDays(x, 10, 1, count);
+        due("the greatest code", x.code(10, 41, 21), 99998);
+        due("it and the modulus", x.take(10, 199998), 0);
+        due("it less the modulus", x.take(10, -2), 0);
+        due("it", x.take(10, 99998), 41);
     }
 
     /** A number that is a code with two counts is of the least one. */
@@ -753,7 +772,12 @@ public final class PromisesTest {
         due("9999", z.of(0, 6), 9999);
         due("above 9999", z.roll(11, 0), -3);
         due("nothing changed", z.of(11, 0), 1);
-        takeDays(z, 12, 60, 0);
+        for (int count = 0; count < 16; count++) takeDays(z, 12, 60, count);
+        takeDays(z, 12, 38, 16);
+        due("it owes one", z.of(12, 5), 1);
+        due("that's on the roof still", z.of(12, 0), 1);
+        due("10000", z.roll(12, 0), -3);
+        due("a rest of one", z.roll(12, 11), 1);
     }
 
     private static void canPay() {
@@ -784,6 +808,12 @@ public final class PromisesTest {
         due("month 19", x.can(0, 19, 1), 0);
         due("month 20", x.can(0, 20, 0), -1);
         due("month -1", x.can(0, -1, 0), -1);
+        SunLamps y = new SunLamps();
+        y.home(0, 0);
+        y.home(0, 0);
+        y.month(0, 0, 999);
+        due("home 0 is another one of home 1", y.can(1, 0, 0), 999);
+        due("the greatest of one", y.can(1, 0, 1), 999);
         due("home 3", x.can(3, 0, 0), -1);
         due("home -1", x.can(-1, 0, 0), -1);
         due("what 2", x.can(0, 0, 2), -1);
@@ -829,6 +859,12 @@ public final class PromisesTest {
         due("the last home", x.best(0x800, 10, -1), 0);
         due("the thirteenth", x.best(0x1000, 10, -1), -2);
         due("none told", x.best(0, 0, -1), 0);
+        due("none to visit", x.best(0, 0, -2), 0);
+        for (int i = 5; i < 12; i++) x.month(i, 1, i);
+        due("all seven", x.best(0xFE0, 22, -1), 5 + 6 + 7 + 8 + 9 + 10 + 11);
+        due("the seventh", x.best(0xFE0, 22, 6), 11);
+        due("six of seven", x.best(0xFE0, 21, -1), 5 + 6 + 7 + 8 + 9 + 10);
+        due("another way than the latest", x.best(1 << 6, 22, 0), 6);
         SunLamps y = new SunLamps();
         y.home(0, 3);
         y.home(0, 4);
@@ -899,6 +935,12 @@ public final class PromisesTest {
         SunLamps two = new SunLamps();
         faultsOf(two, new int[][] {{0, 3, 0}, {1, 3, 1}, {5, 1, 2}, {5, 0, 2}});
         due("two of them, the least as bits", two.cause(), 1 << 3 | 1 << 9);
+        SunLamps later = new SunLamps();
+        faultsOf(later, new int[][] {{0, 3, 0}, {0, 1, 1}, {6, 2, 1}});
+        due("less than a part and a hand", later.cause(), 1 << 4 | 1 << 2);
+        SunLamps zero = new SunLamps();
+        faultsOf(zero, new int[][] {{7, 0, 3}, {6, 0, 2}});
+        due("part 0", zero.cause(), 1);
     }
 
     private static void lenders() {
@@ -923,7 +965,10 @@ public final class PromisesTest {
         due("day -1", x.whose(0, -1), -1);
         due("day 600", x.whose(0, 600), -1);
         due("no lamp's", x.whose(2, 0), -1);
-        for (int i = 3; i <= 20; i++) due("sale " + i, x.sell(1, 0, i, i + 1), i);
+        due("a later one elsewhere", x.sell(0, 2, 7, 9), 3);
+        due("an earlier one", x.whose(0, 5), 1);
+        for (int i = 4; i <= 20; i++) due("sale " + i, x.sell(1, 0, i, i + 1), i);
+        due("behind another lamp's", x.whose(0, 8), 2);
         due("full", x.sell(0, 0, 0, 0), -4);
         due("bad ahead of full", x.sell(0, 0, 1, 0), -2);
         due("sales", x.count(6), 20);
@@ -974,6 +1019,10 @@ public final class PromisesTest {
         due("owned", x.of(0, 0), 4);
         feedAll(x, "run y");
         due("owned days are lit", x.tried(1, 20), 20);
+        x.lend(1, 1);
+        takeDays(x, 1, 2, 0);
+        feedAll(x, "grace 0");
+        due("each on its own meter", x.tried(3, 4), 4 + 2);
         for (int i = x.count(3); i < 10; i++) textFrom(x, 0, "grace 4");
         feedAll(x, "run y");
         due("beside ten texts", x.tried(1, 7), 7);
@@ -1091,6 +1140,11 @@ public final class PromisesTest {
             for (int act = 0; act < 3; act++) {
                 due("act(1, " + kind + ", " + act + ", 3)", x.act(1, kind, act, 3), answers[kind][act]);
             }
+        }
+        for (int kind = 0; kind < 7; kind++) {
+            due("act 3 of kind " + kind, x.act(1, kind, 3, 3), 0);
+            due("act -1 of kind " + kind, x.act(1, kind, -1, 3), 0);
+            due("no body ran", x.count(8), 0);
         }
         tracesOf(x, 3, 2, 41, 31, 12, 40, 11, 30, 10, 40, 11, 30, 10);
         tracesOf(x, 5, 2, 60, 11, 10, 12, 11, 10);
@@ -1221,8 +1275,9 @@ public final class PromisesTest {
         due("all 0", x.read(0, 59), 0);
         due("no 60", x.read(0, 60), NO);
         x.item(0, 59, 7);
+        x.item(0, 0, 7);
         due("anew", x.tape(0, 3, 60), 1);
-        due("all 0 again", x.read(0, 59), 0);
+        due("all 0 again", x.read(0, 59) + x.read(0, 0), 0);
         x.item(0, 1, 7);
         due("a bad one changes nothing", x.tape(0, 1, 61), -2);
         due("kept", x.read(0, 1), 7);
