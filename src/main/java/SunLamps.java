@@ -134,6 +134,7 @@ public final class SunLamps {
             if (lamp == null) continue;
             int kind = terms.goBy(lamp, lamp.meter);
             lamp.keepKind(today, kind);
+            // The document tells of it here, too, though a DAY that goes by changes nothing of what is OWED.
             lamp.becomeOwnedIfPaid();
         }
         today++;
