@@ -748,7 +748,7 @@ public final class SunLamps {
         /** The last CLAUSE of a word (of sum: with those coins); NONE. */
         int lastOf(int word, int coins) {
             for (int i = clauses - 1; i >= 0; i--) {
-                if (valueAt(words, i) == word && (word != SUM || first(i) == coins)) return i;
+                if (valueAt(words, i) == word && (word != SUM || valueAt(firsts, i) == coins)) return i;
             }
             return NONE;
         }
@@ -773,14 +773,13 @@ public final class SunLamps {
                 if (step == NOT) stack ^= 1;
                 else if (step == AND) stack = stack >> 1 & (stack | ~1);
                 else if (step == OR) stack = stack >> 1 | stack & 1;
-                else stack = stack << 1 | (isMet(step, lamp, meter, home, month) ? 1 : 0);
+                else stack = stack << 1 | (isMet(step, valueOf(step, lamp, meter, home, month)) ? 1 : 0);
             }
             return (stack & 1) != 0;
         }
 
-        private static boolean isMet(int test, Lamp lamp, Meter meter, Home home, int month) {
+        private static boolean isMet(int test, int value) {
             int number = test % NUMBERS;
-            int value = valueOf(test / (NUMBERS * SIGNS), lamp, meter, home, month);
             switch (test / NUMBERS % SIGNS) {
                 case 0: return value < number;
                 case 1: return value == number;
@@ -788,8 +787,8 @@ public final class SunLamps {
             }
         }
 
-        private static int valueOf(int letter, Lamp lamp, Meter meter, Home home, int month) {
-            switch (letter) {
+        private static int valueOf(int test, Lamp lamp, Meter meter, Home home, int month) {
+            switch (test / (NUMBERS * SIGNS)) {
                 case 0: return lamp.owedOn(meter);
                 case 1: return meter.lent;
                 case 2: return meter.dark;
@@ -825,18 +824,13 @@ public final class SunLamps {
         int readInto(Text text) {
             text.clear();
             at = 0;
-            boolean isGood = readClauses(text);
-            length = 0;
-            return isGood ? NONE : at;
-        }
-
-        private boolean readClauses(Text text) {
-            for (int i = 0; i < Text.MOST_CLAUSES; i++) {
-                if (i > 0 && !skip(';')) return false;
-                if (!readClause(text)) return false;
-                if (at == length) return true;
+            boolean isGood = readClause(text);
+            for (int i = 1; i < Text.MOST_CLAUSES && isGood && at < length; i++) {
+                isGood = skip(';') && readClause(text);
             }
-            return false;
+            boolean isWhole = isGood && at == length;
+            length = 0;
+            return isWhole ? NONE : at;
         }
 
         private boolean readClause(Text text) {
@@ -937,17 +931,14 @@ public final class SunLamps {
 
         /** A number of 1 to 3 digits; NONE. */
         private int readNumber() {
-            if (!isDigit()) return NONE;
-            int number = 0;
-            for (int i = 0; i < MOST_DIGITS && isDigit(); i++) {
-                number = number * 10 + peek() - '0';
+            int number = NONE;
+            for (int i = 0; i < MOST_DIGITS; i++) {
+                int digit = peek() - '0';
+                if (!isWithin(digit, 0, 9)) break;
+                number = i == 0 ? digit : number * 10 + digit;
                 at++;
             }
             return number;
-        }
-
-        private boolean isDigit() {
-            return isWithin(peek(), '0', '9');
         }
 
         private boolean skipWord(String word) {
@@ -978,10 +969,11 @@ public final class SunLamps {
         /** Takes what is read next; it comes behind the others while it is tried. */
         Text draft = new Text();
         private boolean isTrying;
-        private int settledDay;
+        private int settledMonth;
         private int grace;
         private int run;
-        private int off;
+        private Text offText;
+        private int offClause;
 
         boolean isFull() {
             return size < 0 || size >= texts.length;
@@ -1051,20 +1043,19 @@ public final class SunLamps {
         }
 
         boolean holds(int word, Lamp lamp, int day) {
-            return rulingHolds(rulingOf(word, day, 0), lamp, lamp.meter, day);
-        }
-
-        private boolean rulingHolds(int ruling, Lamp lamp, Meter meter, int day) {
+            int ruling = rulingOf(word, day, 0);
             Text text = textOf(ruling);
-            return text != null && text.holds(ruling % PER_TEXT, lamp, meter, day / MONTH_DAYS);
+            return text != null && text.holds(ruling % PER_TEXT, lamp, lamp.meter, day / MONTH_DAYS);
         }
 
         /** Looks up what all LAMPS share on a DAY, once for all of them. */
         void settle(int day) {
-            settledDay = day;
+            settledMonth = day / MONTH_DAYS;
             grace = graceOf(day);
             run = runOf(day);
-            off = rulingOf(OFF, day, 0);
+            int ruling = rulingOf(OFF, day, 0);
+            offText = textOf(ruling);
+            offClause = ruling % PER_TEXT;
         }
 
         /** The KIND of the settled DAY for a LAMP; the meter, its own or the one beside, runs on. */
@@ -1085,7 +1076,7 @@ public final class SunLamps {
                 meter.runOneDay();
                 return Acts.PAID;
             }
-            if (rulingHolds(off, lamp, meter, settledDay)) return Acts.FREE;
+            if (offText != null && offText.holds(offClause, lamp, meter, settledMonth)) return Acts.FREE;
             if (meter.lent >= grace) return Acts.DARK;
             meter.lent++;
             return Acts.LENT;
@@ -1223,7 +1214,7 @@ public final class SunLamps {
         private void keepRow(int visits, int coins) {
             bestVisits = visits;
             bestCoins = coins;
-            for (int i = 0; i < visits && i < row.length; i++) {
+            for (int i = 0; i < visits && i < row.length && i < bestRow.length; i++) {
                 bestRow[i] = row[i];
             }
         }

@@ -9,8 +9,14 @@ import java.lang.reflect.Field;
 import java.lang.reflect.Method;
 import java.lang.reflect.Modifier;
 import java.nio.file.Path;
+import java.util.ArrayDeque;
+import java.util.Deque;
+import java.util.HashMap;
 import java.util.HashSet;
+import java.util.LinkedHashMap;
+import java.util.LinkedHashSet;
 import java.util.List;
+import java.util.Map;
 import java.util.Set;
 import java.util.TreeSet;
 import javax.lang.model.element.Element;
@@ -50,6 +56,7 @@ public final class RulesTest {
             Source scanner = new Source(Trees.instance(task), unit);
             scanner.scan(unit, null);
             checks.holds("some twelve classes at most: " + scanner.classes, scanner.classes <= 12);
+            depths(scanner.calls);
         }
         checks.end("RulesTest");
     }
@@ -102,6 +109,43 @@ public final class RulesTest {
         return true;
     }
 
+    // ---- how deep calls go (rules 8 and 11)
+
+    /** All methods that a method calls, also by way of others. */
+    private static Set<Element> reached(Map<Element, Set<Element>> calls, Element from) {
+        Set<Element> found = new LinkedHashSet<>();
+        Deque<Element> open = new ArrayDeque<>(calls.getOrDefault(from, Set.of()));
+        while (!open.isEmpty()) {
+            Element next = open.pop();
+            if (found.add(next)) open.addAll(calls.getOrDefault(next, Set.of()));
+        }
+        return found;
+    }
+
+    /** The longest chain of calls from a method on, itself counted; calls of one recursion count once together. */
+    private static int depth(Map<Element, Set<Element>> calls, Element from, Map<Element, Integer> known) {
+        if (known.containsKey(from)) return known.get(from);
+        Set<Element> ring = new LinkedHashSet<>(Set.of(from));
+        for (Element to : reached(calls, from)) if (reached(calls, to).contains(from)) ring.add(to);
+        int deepest = 0;
+        for (Element member : ring) {
+            for (Element to : calls.getOrDefault(member, Set.of())) {
+                if (!ring.contains(to)) deepest = Math.max(deepest, depth(calls, to, known));
+            }
+        }
+        for (Element member : ring) known.put(member, deepest + 1);
+        return deepest + 1;
+    }
+
+    private static void depths(Map<Element, Set<Element>> calls) {
+        Map<Element, Integer> known = new HashMap<>();
+        for (Element method : calls.keySet()) {
+            int depth = depth(calls, method, known);
+            checks.holds("calls go eight deep at most from " + method + ": " + depth, depth <= 8);
+        }
+        checks.holds("calls are seen", known.size() > 38);
+    }
+
     // ---- the source
 
     private static final class Source extends TreePathScanner<Void, Void> {
@@ -119,6 +163,9 @@ public final class RulesTest {
 
         private final Trees trees;
         private final CompilationUnitTree unit;
+        /** Which of the program's methods each of them calls. */
+        final Map<Element, Set<Element>> calls = new LinkedHashMap<>();
+        private Element method;
         int classes = 0;
 
         Source(Trees trees, CompilationUnitTree unit) {
@@ -171,6 +218,8 @@ public final class RulesTest {
             boolean isMade = trees.getSourcePositions().getEndPosition(unit, tree) < 0;
             checks.holds(tree.getName() + " has some sixty lines at most", isMade || lines(tree) <= 60);
             checks.holds(tree.getName() + " throws nothing", tree.getThrows().isEmpty());
+            method = trees.getElement(getCurrentPath());
+            calls.putIfAbsent(method, new LinkedHashSet<>());
             return super.visitMethod(tree, none);
         }
 
@@ -221,8 +270,9 @@ public final class RulesTest {
         private void checkCall(Element called, Tree tree) {
             String owner = ((TypeElement) called.getEnclosingElement()).getQualifiedName().toString();
             String name = called.getSimpleName().toString();
-            boolean isGood = owner.equals("SunLamps") || owner.startsWith("SunLamps.")
-                || OWNERS.contains(owner) || ALONE.contains(owner + "." + name);
+            boolean isOwn = owner.equals("SunLamps") || owner.startsWith("SunLamps.");
+            if (isOwn && method != null) calls.computeIfAbsent(method, m -> new LinkedHashSet<>()).add(called);
+            boolean isGood = isOwn || OWNERS.contains(owner) || ALONE.contains(owner + "." + name);
             checks.holds("a call of the language: " + owner + "." + name + ", " + at(tree), isGood && !name.endsWith("Exact"));
             if (owner.equals("java.lang.String")) {
                 checks.holds("a call of String: " + name + ", " + at(tree), STRING_CALLS.contains(name));
